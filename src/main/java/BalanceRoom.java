@@ -492,7 +492,8 @@ public final class BalanceRoom {
         }
 
         long change(long from, long to) {
-            return isInfinite(to) && from == to ? 0 : sum(to, turn(from));
+            boolean bothInfinite = isInfinite(to) && from == to;
+            return bothInfinite ? 0 : sum(to, turn(from));
         }
 
         long withHalf(long x, long y) {
@@ -546,7 +547,7 @@ public final class BalanceRoom {
             long twiceTheRest = (unsigned - below) << 1;
             // Of 1 itself the bit that tells odd from even is the hidden one.
             boolean odd = ((below | hiddenBit) & unit) != 0;
-            boolean upwards = twiceTheRest > unit || twiceTheRest == unit && odd;
+            boolean upwards = twiceTheRest > unit || (twiceTheRest == unit && odd);
             return upwards ? below + unit : below;
         }
 
@@ -600,7 +601,7 @@ public final class BalanceRoom {
             }
             long kept = m >> SPARE_BITS;
             long cut = m & SPARE_MASK;
-            if (cut > SPARE_HALF || cut == SPARE_HALF && (kept & 1) == 1) {
+            if (cut > SPARE_HALF || (cut == SPARE_HALF && (kept & 1) == 1)) {
                 kept++;
             }
             // The hidden bit, if it is there, counts the exponent up by the 1 that is taken off here.
@@ -613,7 +614,7 @@ public final class BalanceRoom {
                 return m == 0 ? 0 : 1;
             }
             long kept = m >> by;
-            return kept << by == m ? kept : kept | 1;
+            return (kept << by) == m ? kept : kept | 1;
         }
     }
 }
