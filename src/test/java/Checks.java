@@ -29,9 +29,15 @@ final class Checks {
 
     private int made = 0;
     private int wrong = 0;
+    private String sentence = "";
 
     interface Call {
         long answer();
+    }
+
+    /** The sentence of the document that the checks from here on are about. */
+    void about(String words) {
+        sentence = "'" + words + "': ";
     }
 
     void due(String what, long want, Call call) {
@@ -83,10 +89,18 @@ final class Checks {
         due("order " + code + ", " + k + " on " + v + " against " + w + " in balance " + g, want, () -> room.show(g));
     }
 
+    /** What comes of one order in a room where no other balance has a reading. */
+    void dueAlone(int g, long v, int code, int k, long want) {
+        BalanceRoom room = new BalanceRoom();
+        room.read(g, v);
+        room.order(code, k);
+        due("order " + code + ", " + k + " on " + v + " in balance " + g, want, () -> room.show(g));
+    }
+
     private void say(String text) {
         wrong++;
         if (wrong <= MOST_PRINTED) {
-            System.out.println(text);
+            System.out.println(sentence + text);
         }
     }
 
