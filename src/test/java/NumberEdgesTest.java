@@ -142,6 +142,9 @@ public final class NumberEdgesTest {
         dueReading(g, normal - 1, normal, tiny, one);
         dueReading(g, normal + 1, normal, tiny, minusOne);
         dueReading(g, minusTiny, normal - 1, normal, one);
+        dueReading(g, 2 * normal, 2 * normal + 1, Numbers.tiny(g, 2), one);
+        dueReading(g, 3 * normal, 3 * normal + 1, Numbers.tiny(g, 4), one);
+        dueReading(g, 2 * normal, 2 * normal - 1, tiny, minusOne);
         dueMeet(g, Numbers.tiny(g, 2), 0, tiny);
         dueMeet(g, Numbers.tiny(g, -2), 0, minusTiny);
         dueReach(g, Numbers.tiny(g, -5), Numbers.tiny(g, 4), Numbers.tiny(g, 7));
@@ -168,6 +171,13 @@ public final class NumberEdgesTest {
         dueMeet(g, far + 1, one, half + 2);
         dueMeet(g, far + 1, one - 1, half + 1);
         dueMeet(g, far, Numbers.tiny(g, 1), half);
+        // Above the half by bits at each distance behind it, and by the last bit of the lesser number as well.
+        for (int behind = 1; behind < n - 1; behind++) {
+            long above = Numbers.of(g, 1 + Math.scalb(1.0, -behind));
+            dueMeet(g, far, above, half + 1);
+            dueMeet(g, far, above + 1, half + 1);
+            dueMeet(g, far, above - 1, half + 1);
+        }
         dueMeet(g, Numbers.of(g, -Math.scalb(1.0, n)), Numbers.of(g, -1), Numbers.of(g, -Math.scalb(1.0, n - 1)));
         dueReach(g, far, Numbers.of(g, 2), far);
         dueReach(g, far, Numbers.of(g, 6), far + 2);
@@ -293,7 +303,8 @@ public final class NumberEdgesTest {
     }
 
     private static void toldInBits() {
-        CHECKS.about("Told in BITS, a long: an INT is itself; of a FLOAT the 32 bits, as an INT; of a DOUBLE the 64 bits");
+        CHECKS.about("Told in BITS, a long: an INT is itself; of a FLOAT the 32 bits, as an INT; of a DOUBLE the 64 "
+                + "bits");
         BalanceRoom room = new BalanceRoom();
         room.read(0, 0xffffffffL);
         CHECKS.dueBalance("an INT below 0", room, 0, 1, -1, -1, -1, 0, 0);

@@ -5,6 +5,9 @@ public final class OrderEdgesTest {
     private static final Checks CHECKS = new Checks();
 
     public static void main(String[] args) {
+        for (int g : Numbers.EACH) {
+            nowOfTheOther(g);
+        }
         for (int g : Numbers.WHOLE) {
             wholeSize(g);
             wholeOnesAreThemselves(g);
@@ -56,6 +59,29 @@ public final class OrderEdgesTest {
         CHECKS.dueAlone(g, Numbers.of(g, v), Checks.STEP, p + 10, Numbers.of(g, want));
     }
 
+    /** The NOW of the other balance is neither its first reading nor its LEAST nor its GREATEST. */
+    private static void dueAgainst(int g, int code, double v, double sign, double want) {
+        BalanceRoom room = new BalanceRoom();
+        room.read(g, Numbers.of(g, v));
+        room.read(g + 2, Numbers.of(g, -9 * sign));
+        room.read(g + 2, Numbers.of(g, 9 * sign));
+        room.read(g + 2, Numbers.of(g, 2 * sign));
+        room.order(code, g + 2);
+        CHECKS.due("order " + code + " on " + v + " in " + g, Numbers.of(g, want), () -> room.show(g));
+    }
+
+    private static void nowOfTheOther(int g) {
+        CHECKS.about("w is the NOW of balance k");
+        dueAgainst(g, Checks.LIKE, -7, 1, 7);
+        dueAgainst(g, Checks.LIKE, 7, -1, -7);
+        dueAgainst(g, Checks.MORE, 1, 1, 2);
+        dueAgainst(g, Checks.MORE, -3, -1, -2);
+        dueAgainst(g, Checks.LESS, 3, 1, 2);
+        dueAgainst(g, Checks.LESS, -1, -1, -2);
+        dueAgainst(g, Checks.MEET, 4, 1, 3);
+        dueAgainst(g, Checks.MEET, -4, -1, -3);
+    }
+
     private static void wholeSize(int g) {
         CHECKS.about("0 SIZE: without its sign (of the least INT, LONG: itself)");
         long least = Numbers.leastWhole(g);
@@ -79,6 +105,8 @@ public final class OrderEdgesTest {
 
     private static void pointDown(int g) {
         CHECKS.about("1 DOWN: the greatest whole number that is not above v");
+        due(g, Checks.DOWN, 1.0, 1.0);
+        due(g, Checks.DOWN, -1.0, -1.0);
         due(g, Checks.DOWN, 2.0, 2.0);
         dueOf(g, Checks.DOWN, Numbers.of(g, 2) - 1, 1);
         dueOf(g, Checks.DOWN, Numbers.of(g, 2) + 1, 2);
@@ -95,6 +123,8 @@ public final class OrderEdgesTest {
 
     private static void pointUp(int g) {
         CHECKS.about("2 UP: the least one that is not below");
+        due(g, Checks.UP, 1.0, 1.0);
+        due(g, Checks.UP, -1.0, -1.0);
         due(g, Checks.UP, 2.0, 2.0);
         dueOf(g, Checks.UP, Numbers.of(g, 2) - 1, 2);
         dueOf(g, Checks.UP, Numbers.of(g, 2) + 1, 3);
@@ -123,6 +153,8 @@ public final class OrderEdgesTest {
             dueOf(g, Checks.NEAR, minusHalf - 1, -Math.floor(halves[i]));
             dueOf(g, Checks.NEAR, minusHalf + 1, -Math.ceil(halves[i]));
         }
+        due(g, Checks.NEAR, 1, 1);
+        due(g, Checks.NEAR, -1, -1);
         due(g, Checks.NEAR, 3, 3);
         due(g, Checks.NEAR, -3, -3);
         due(g, Checks.NEAR, 0.0, 0.0);
@@ -335,7 +367,8 @@ public final class OrderEdgesTest {
     }
 
     private static void wholeMeet(int g) {
-        CHECKS.about("9 MEET: of INTS, LONGS v + w (it wraps), halved, the greatest whole number that is not above that");
+        CHECKS.about("9 MEET: of INTS, LONGS v + w (it wraps), halved, the greatest whole number that is not above "
+                + "that");
         long least = Numbers.leastWhole(g);
         long greatest = Numbers.greatestWhole(g);
         due(g, Checks.MEET, 3, 4, 3);
@@ -364,7 +397,8 @@ public final class OrderEdgesTest {
         long greatest = Numbers.greatestFinite(g);
         CHECKS.dueOrder(g, greatest, Checks.MEET, g + 1, greatest, Numbers.of(g, INFINITE));
         CHECKS.dueOrder(g, greatest, Checks.MEET, g + 1, Numbers.leastFinite(g), 0);
-        CHECKS.dueOrder(g, Numbers.leastFinite(g), Checks.MEET, g + 1, Numbers.leastFinite(g), Numbers.of(g, -INFINITE));
+        long least = Numbers.leastFinite(g);
+        CHECKS.dueOrder(g, least, Checks.MEET, g + 1, least, Numbers.of(g, -INFINITE));
         CHECKS.about("9 MEET: Refused, if both are infinite with unlike signs: not so otherwise");
         due(g, Checks.MEET, INFINITE, INFINITE, INFINITE);
         due(g, Checks.MEET, -INFINITE, -INFINITE, -INFINITE);

@@ -38,6 +38,7 @@ public final class PromiseEdgesTest {
         reachNoReading();
         reachOfWholeOnes();
         reachOfPoints();
+        reachOfNow();
         topNoSuchSort();
         for (int g : Numbers.EACH) {
             topWithoutAny(g);
@@ -369,7 +370,8 @@ public final class PromiseEdgesTest {
         room.order(Checks.HELD, g);
         CHECKS.due("held between 4 and 8", Numbers.of(g, 4), () -> room.show(g));
         CHECKS.due("kept", 3, () -> room.keep(g));
-        CHECKS.dueBalance("kept", room, g, 3, Numbers.of(g, 4), Numbers.of(g, 4), Numbers.of(g, 8), Numbers.of(g, 4), 0);
+        CHECKS.dueBalance("kept", room, g, 3, Numbers.of(g, 4), Numbers.of(g, 4), Numbers.of(g, 8),
+                Numbers.of(g, 4), 0);
     }
 
     private static void failedNone() {
@@ -503,7 +505,8 @@ public final class PromiseEdgesTest {
     }
 
     private static void reachOfWholeOnes() {
-        CHECKS.about("Promise 8: the greater of these and half of the lesser (of INTS, LONGS halved downwards) together");
+        CHECKS.about("Promise 8: the greater of these and half of the lesser (of INTS, LONGS halved downwards) "
+                + "together");
         for (int g : Numbers.WHOLE) {
             long least = Numbers.leastWhole(g);
             long greatest = Numbers.greatestWhole(g);
@@ -542,6 +545,20 @@ public final class PromiseEdgesTest {
             dueReach(g, Numbers.tiny(g, -1), Numbers.tiny(g, 1), Numbers.tiny(g, 1));
             dueReach(g, Numbers.tiny(g, 2), Numbers.tiny(g, -1), Numbers.tiny(g, 2));
             dueReach(g, Numbers.tiny(g, -3), Numbers.tiny(g, 3), Numbers.tiny(g, 5));
+        }
+    }
+
+    private static void reachOfNow() {
+        CHECKS.about("Promise 8: with x, y the SIZES of their NOWS");
+        for (int g : Numbers.EACH) {
+            BalanceRoom room = with(g, -9, 9, 2);
+            room.read(g + 1, Numbers.of(g, 20));
+            room.read(g + 1, Numbers.of(g, -20));
+            room.read(g + 1, Numbers.of(g, -8));
+            CHECKS.due("reach", Numbers.of(g, 9), () -> room.reach(g, g + 1));
+            CHECKS.due("reach", Numbers.of(g, 9), () -> room.reach(g + 1, g));
+            CHECKS.dueBalance("it changes nothing", room, g + 1, 3, Numbers.of(g, -8), Numbers.of(g, -20),
+                    Numbers.of(g, 20), Numbers.of(g, 40), Numbers.of(g, 1));
         }
     }
 
@@ -597,7 +614,7 @@ public final class PromiseEdgesTest {
     }
 
     private static void topOnlyWithAReading(int g) {
-        CHECKS.about("Promise 9: Of the balances of a sort that have a READING .. with the greatest NOW .. or the least");
+        CHECKS.about("Promise 9: Of the balances of a sort that have a READING .. the greatest NOW .. or the least");
         BalanceRoom room = with(g + 2, -3);
         dueTop(room, g, g + 2, g + 2);
         room.read(g + 1, Numbers.of(g, -9));

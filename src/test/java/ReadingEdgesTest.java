@@ -69,8 +69,12 @@ public final class ReadingEdgesTest {
         long four = Numbers.of(g, 4);
         CHECKS.dueBalance("up", after(g, four, ten), g, 2, ten, four, ten, Numbers.of(g, 6), one);
         CHECKS.dueBalance("down", after(g, ten, four), g, 2, four, four, ten, Numbers.of(g, 6), minus);
-        CHECKS.dueBalance("less NOW, not less the first, the LEAST or the GREATEST", after(g, ten, four, Numbers.of(g, 7)), g,
-                3, Numbers.of(g, 7), four, ten, Numbers.of(g, 6), one);
+        long seven = Numbers.of(g, 7);
+        long eight = Numbers.of(g, 8);
+        CHECKS.dueBalance("less NOW, not less the first, the LEAST or the GREATEST", after(g, seven, four, ten, eight),
+                g, 4, eight, four, ten, Numbers.of(g, 6), minus);
+        CHECKS.dueBalance("and so upwards", after(g, seven, ten, four, Numbers.of(g, 5)),
+                g, 4, Numbers.of(g, 5), four, ten, Numbers.of(g, 6), one);
         CHECKS.dueBalance("a second one that is 0", after(g, four, 0), g, 2, 0, 0, four, four, minus);
         CHECKS.dueBalance("a first one that is 0", after(g, 0, four), g, 2, four, 0, four, four, one);
     }
@@ -113,7 +117,8 @@ public final class ReadingEdgesTest {
         long least = Numbers.leastWhole(g);
         CHECKS.dueBalance("D is the least one", after(g, 0, least), g, 2, least, least, 0, 0, -1);
         CHECKS.dueBalance("it is so from below, too", after(g, least, 0), g, 2, 0, least, 0, 0, -1);
-        CHECKS.dueBalance("D is one more", after(g, 0, least + 1), g, 2, least + 1, least + 1, 0, Numbers.greatestWhole(g), -1);
+        CHECKS.dueBalance("D is one more", after(g, 0, least + 1), g, 2, least + 1, least + 1, 0,
+                Numbers.greatestWhole(g), -1);
         CHECKS.dueBalance("SWING stays", after(g, 3, 0, least), g, 3, least, least, 3, 3, -1);
     }
 

@@ -172,7 +172,8 @@ public final class TapeEdgesTest {
         CHECKS.due(what + ": the tape's length", twin.wipe(), () -> room.wipe());
     }
 
-    private static void dueThrow(String what, int orders, Class<? extends RuntimeException> thrown, int failed, Act act) {
+    private static void dueThrow(String what, int orders, Class<? extends RuntimeException> thrown, int failed,
+            Act act) {
         BalanceRoom room = furnished(orders);
         CHECKS.dueThrow(what, thrown, () -> act.on(room));
         dueUnchanged(what, room, furnished(orders), failed);
@@ -241,7 +242,8 @@ public final class TapeEdgesTest {
         CHECKS.dueThrow("a wrong code and a full tape", Checks.ARGUMENT, () -> full.order(13, 0));
         CHECKS.dueThrow("a wrong code below 0 and a full tape", Checks.ARGUMENT, () -> full.order(-1, 0));
         CHECKS.dueThrow("a wrong k and a full tape", Checks.ARGUMENT, () -> full.order(Checks.TURN, 1));
-        CHECKS.dueThrow("no such balance in an order and a full tape", Checks.ARGUMENT, () -> full.order(Checks.LIKE, 16));
+        CHECKS.dueThrow("an order's k is no balance, and a full tape", Checks.ARGUMENT,
+                () -> full.order(Checks.LIKE, 16));
         CHECKS.dueThrow("a wrong step and a full tape", Checks.ARGUMENT, () -> full.order(Checks.STEP, 21));
         CHECKS.dueThrow("no such balance, and one without a reading", Checks.ARGUMENT, () -> full.reach(3, 16));
         CHECKS.dueThrow("the other way round", Checks.ARGUMENT, () -> full.reach(16, 3));
