@@ -218,11 +218,17 @@ final class Model {
     }
 
     private static Number max(Number v, Number w) {
-        return isFloating(v) ? like(v, Math.max(v.doubleValue(), w.doubleValue())) : v.longValue() > w.longValue() ? v : w;
+        if (isFloating(v)) {
+            return like(v, Math.max(v.doubleValue(), w.doubleValue()));
+        }
+        return v.longValue() > w.longValue() ? v : w;
     }
 
     private static Number min(Number v, Number w) {
-        return isFloating(v) ? like(v, Math.min(v.doubleValue(), w.doubleValue())) : v.longValue() < w.longValue() ? v : w;
+        if (isFloating(v)) {
+            return like(v, Math.min(v.doubleValue(), w.doubleValue()));
+        }
+        return v.longValue() < w.longValue() ? v : w;
     }
 
     private static Number withSignOf(Number v, Number w) {
